@@ -47,6 +47,7 @@ public final class BoardDesk {
     private final History history;
     private final Router router;
     private final Tape tape;
+    /** A number for each net, for the time of one call. */
     private final int[] perNet;
 
     public BoardDesk() {
@@ -305,7 +306,7 @@ public final class BoardDesk {
         return history.count;
     }
 
-    /** The net with the least sum in perNet, of the same sum the lesser one; NONE when all are done. */
+    /** The net with the least number in perNet, of the same one the lesser net; NONE: all done. */
     private int leastNet() {
         int best = NONE;
         for (int net = 0; net < MAX_PINS; net++) {
@@ -385,7 +386,7 @@ public final class BoardDesk {
 
     /** All that undo brings back, and nothing else, so that changes are seen by comparing. */
     private static final class Sheet {
-        /** Stands among the holders: a barred cell never belongs to a net, so no cell needs both. */
+        /** Stands among the holders, as a barred cell never belongs to a net. */
         static final int BARRED = -2;
 
         final int[] kinds = new int[MAX_PINS];
@@ -402,7 +403,9 @@ public final class BoardDesk {
         int clearance = 1;
 
         Sheet() {
-            Arrays.fill(holders, NONE);
+            for (int cell = 0; cell < CELLS; cell++) {
+                holders[cell] = NONE;
+            }
         }
 
         void copyFrom(Sheet other) {
@@ -569,7 +572,7 @@ public final class BoardDesk {
             }
         }
 
-        /** CLASH and DEAF shut each other out, so a net has one fault at most; NONE when it has none. */
+        /** CLASH and DEAF shut each other out, so a net has one fault at most; NONE: it has none. */
         int netFault(int net) {
             int outputs = kindCount(net, OUTPUT);
             if (outputs >= 2) {
@@ -663,7 +666,7 @@ public final class BoardDesk {
             return gone;
         }
 
-        /** The columns plus the rows over which a net's placed pins lie; NONE for fewer than two. */
+        /** The columns plus the rows that a net's placed pins span; NONE for fewer than two. */
         int spanOf(int net) {
             int placed = 0;
             int left = COLUMNS;
@@ -683,7 +686,7 @@ public final class BoardDesk {
             return placed < 2 ? NONE : right - left + bottom - top;
         }
 
-        /** For each greater net the first cell of the lesser one that is too near to it, or NONE. */
+        /** For each greater net the first cell of the lesser one too near to it, or NONE. */
         void findNear(int lesser, int[] cells) {
             Arrays.fill(cells, NONE);
             for (int cell = 0; cell < CELLS; cell++) {
@@ -738,7 +741,7 @@ public final class BoardDesk {
             return cost == 0;
         }
 
-        /** Lays the way to the missing pin: its cost, 0 when none is missing, FULL without a way. */
+        /** Lays the way to the missing pin: its cost; 0: none is missing; FULL: there is no way. */
         int connect(Board board, int net) {
             int missing = missingPin(board, net);
             if (missing == NONE) {
@@ -776,7 +779,7 @@ public final class BoardDesk {
             }
             pieceSize = 0;
             addToPiece(start);
-            for (int done = 0; done < pieceSize; done++) {
+            for (int done = 0; done < CELLS && done < pieceSize; done++) {
                 for (int direction = 0; direction < DIRECTIONS; direction++) {
                     int next = neighbour(pieceCells[done], direction);
                     if (next != NONE && board.netAt(next) == net) {

@@ -1,7 +1,5 @@
 /** Promises 7 to 12 and 16: place, lift, rule, bar, track, erase, copper. */
 public final class BoardTest {
-    private static final int PASSIVE = 2;
-
     private static final Due due = new Due();
 
     public static void main(String[] args) {
@@ -20,14 +18,6 @@ public final class BoardTest {
         due.finish();
     }
 
-    private static BoardDesk withPins(int count) {
-        BoardDesk desk = new BoardDesk();
-        for (int p = 0; p < count; p++) {
-            desk.pin(PASSIVE);
-        }
-        return desk;
-    }
-
     private static int cellsOf(BoardDesk desk, int net) {
         int count = 0;
         for (int cell = 0; cell < 240; cell++) {
@@ -39,7 +29,7 @@ public final class BoardTest {
     }
 
     private static void promise7Place() {
-        BoardDesk desk = withPins(4);
+        BoardDesk desk = Desks.withPins(4);
         due.yes("place(0, 11, 9, 3)", desk.place(0, 11, 9, 3));
         due.same("copper(119)", desk.copper(119), 0);
         due.same("copper(239)", desk.copper(239), 0);
@@ -54,7 +44,7 @@ public final class BoardTest {
     }
 
     private static void promise7PlaceWrong() {
-        BoardDesk desk = withPins(3);
+        BoardDesk desk = Desks.withPins(3);
         desk.join(0, 1);
         due.no("place(3, 0, 0, 1)", desk.place(3, 0, 0, 1));
         due.no("place(-1, 0, 0, 1)", desk.place(-1, 0, 0, 1));
@@ -82,7 +72,7 @@ public final class BoardTest {
 
     private static void promise7PlaceClearance() {
         for (int clearance = 1; clearance <= 2; clearance++) {
-            BoardDesk desk = withPins(3);
+            BoardDesk desk = Desks.withPins(3);
             desk.join(0, 1);
             desk.rule(clearance);
             desk.place(0, 5, 5, 1);
@@ -105,7 +95,7 @@ public final class BoardTest {
     }
 
     private static void promise8Lift() {
-        BoardDesk desk = withPins(2);
+        BoardDesk desk = Desks.withPins(2);
         due.no("lift(0), not placed", desk.lift(0));
         due.no("lift(2)", desk.lift(2));
         due.no("lift(-1)", desk.lift(-1));
@@ -122,7 +112,7 @@ public final class BoardTest {
     }
 
     private static void promise9Rule() {
-        BoardDesk desk = withPins(2);
+        BoardDesk desk = Desks.withPins(2);
         due.same("rule(2)", desk.rule(2), 1);
         due.same("rule(2) again", desk.rule(2), 2);
         due.same("rule(0)", desk.rule(0), -1);
@@ -137,7 +127,7 @@ public final class BoardTest {
     }
 
     private static void promise10Bar() {
-        BoardDesk desk = withPins(2);
+        BoardDesk desk = Desks.withPins(2);
         due.no("bar(240, true)", desk.bar(240, true));
         due.no("bar(-1, true)", desk.bar(-1, true));
         due.no("bar(240, false)", desk.bar(240, false));
@@ -166,14 +156,14 @@ public final class BoardTest {
         int[] steps = {1, 13, 12, 11, -1, -13, -12, -11};
         int start = 52;
         for (int direction = 0; direction < 8; direction++) {
-            BoardDesk desk = withPins(1);
+            BoardDesk desk = Desks.withPins(1);
             due.same("track over 3 steps", desk.track(0, start, direction, 3), 4);
             for (int step = 0; step <= 3; step++) {
                 due.same("its cell", desk.copper(start + step * steps[direction]), 0);
             }
             due.same("all its cells", cellsOf(desk, 0), 4);
         }
-        BoardDesk desk = withPins(1);
+        BoardDesk desk = Desks.withPins(1);
         due.same("track to the right end", desk.track(0, 0, 0, 11), 12);
         due.same("track past the right end", desk.track(0, 1, 0, 11), -1);
         due.same("track past the left end", desk.track(0, 10, 4, 11), -1);
@@ -191,7 +181,7 @@ public final class BoardTest {
     }
 
     private static void promise11TrackWrong() {
-        BoardDesk desk = withPins(1);
+        BoardDesk desk = Desks.withPins(1);
         due.same("no pin", desk.track(1, 0, 0, 1), -1);
         due.same("pin -1", desk.track(-1, 0, 0, 1), -1);
         due.same("cell 240", desk.track(0, 240, 0, 0), -1);
@@ -210,11 +200,13 @@ public final class BoardTest {
     }
 
     private static void promise11TrackOverOwn() {
-        BoardDesk desk = withPins(3);
+        BoardDesk desk = Desks.withPins(3);
         desk.join(1, 2);
         desk.place(1, 2, 0, 1);
         due.same("over a pad", desk.track(1, 0, 0, 4), 4);
         due.no("the pad stays a pad", desk.erase(2));
+        due.same("over a pad for another pin of the net", desk.track(2, 2, 0, 0), 0);
+        due.no("it stays a pad too", desk.erase(2));
         due.same("over copper and pad alone", desk.track(1, 0, 0, 4), 0);
         // Laid anew for pin 2: it goes with pin 2 when the joint goes.
         due.same("for the other pin", desk.track(2, 3, 0, 2), 1);
@@ -229,7 +221,7 @@ public final class BoardTest {
     }
 
     private static void promise11TrackKeepsClear() {
-        BoardDesk desk = withPins(2);
+        BoardDesk desk = Desks.withPins(2);
         desk.place(1, 6, 4, 1);
         due.same("two rows above", desk.track(0, 24, 0, 11), 12);
         due.same("a row above", desk.track(0, 36, 0, 11), -1);
@@ -244,7 +236,7 @@ public final class BoardTest {
     }
 
     private static void promise12Erase() {
-        BoardDesk desk = withPins(1);
+        BoardDesk desk = Desks.withPins(1);
         desk.place(0, 0, 0, 1);
         desk.track(0, 0, 0, 2);
         due.yes("erase(1)", desk.erase(1));
@@ -263,7 +255,7 @@ public final class BoardTest {
     }
 
     private static void promise16Copper() {
-        BoardDesk desk = withPins(3);
+        BoardDesk desk = Desks.withPins(3);
         due.same("copper(-1)", desk.copper(-1), -1);
         due.same("copper(240)", desk.copper(240), -1);
         desk.join(2, 1);

@@ -1,7 +1,5 @@
 /** Promise 17: check. */
 public final class CheckTest {
-    private static final int PASSIVE = 2;
-
     private static final Due due = new Due();
 
     public static void main(String[] args) {
@@ -11,14 +9,6 @@ public final class CheckTest {
         promise17NearCell();
         promise17Order();
         due.finish();
-    }
-
-    private static BoardDesk withPins(int count) {
-        BoardDesk desk = new BoardDesk();
-        for (int p = 0; p < count; p++) {
-            desk.pin(PASSIVE);
-        }
-        return desk;
     }
 
     private static void fault(String of, BoardDesk desk, int k, int... wanted) {
@@ -32,7 +22,7 @@ public final class CheckTest {
     }
 
     private static void promise17Wrong() {
-        BoardDesk desk = withPins(2);
+        BoardDesk desk = Desks.withPins(2);
         desk.join(0, 1);
         noFault("none placed", desk, 0);
         desk.place(0, 0, 0, 1);
@@ -47,7 +37,7 @@ public final class CheckTest {
     }
 
     private static void promise17Open() {
-        BoardDesk desk = withPins(4);
+        BoardDesk desk = Desks.withPins(4);
         desk.join(0, 1);
         desk.join(0, 2);
         desk.join(0, 3);
@@ -65,7 +55,7 @@ public final class CheckTest {
     }
 
     private static void promise17Near() {
-        BoardDesk desk = withPins(3);
+        BoardDesk desk = Desks.withPins(3);
         desk.place(0, 4, 4, 1);
         desk.place(1, 6, 6, 1);
         desk.place(2, 6, 6, 2);
@@ -82,7 +72,7 @@ public final class CheckTest {
 
     private static void promise17NearCell() {
         // Copper of two pins in a row is parted: they touch where the one ends.
-        BoardDesk desk = withPins(3);
+        BoardDesk desk = Desks.withPins(3);
         desk.join(1, 2);
         desk.track(2, 24, 0, 3);
         desk.track(1, 28, 0, 3);
@@ -101,7 +91,7 @@ public final class CheckTest {
     }
 
     private static void promise17Order() {
-        BoardDesk desk = withPins(8);
+        BoardDesk desk = Desks.withPins(8);
         desk.join(0, 7);
         desk.join(1, 6);
         desk.place(2, 0, 0, 1);

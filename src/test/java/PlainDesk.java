@@ -250,7 +250,7 @@ final class PlainDesk {
         return NONE;
     }
 
-    /** The least of the cheapest ways, as whole ways are taken in order; null when there is none. */
+    /** The least of the cheapest ways, as whole ways are taken in order; null: there is none. */
     private Way bestWay(int net, int missing) {
         Set<Integer> goal = firstPiece(net);
         Map<Integer, Integer> belongings = belongings();
@@ -268,7 +268,8 @@ final class PlainDesk {
                 continue;
             }
             for (int next : NEIGHBOURS.get(way.last())) {
-                if (done.contains(next) || !(goal.contains(next) || isFree(next, net, belongings))) {
+                boolean leads = goal.contains(next) || isFree(next, net, belongings);
+                if (!leads || done.contains(next)) {
                     continue;
                 }
                 List<Integer> cells = new ArrayList<>(way.cells);

@@ -1,7 +1,5 @@
 /** Promises 18 to 20: plot, read, replay. */
 public final class PlotTest {
-    private static final int PASSIVE = 2;
-
     private static final Due due = new Due();
 
     public static void main(String[] args) {
@@ -15,14 +13,6 @@ public final class PlotTest {
         due.finish();
     }
 
-    private static BoardDesk withPins(int count) {
-        BoardDesk desk = new BoardDesk();
-        for (int p = 0; p < count; p++) {
-            desk.pin(PASSIVE);
-        }
-        return desk;
-    }
-
     private static void plotIs(String of, BoardDesk desk, int layer, int... bytes) {
         for (int i = 0; i < bytes.length; i++) {
             due.same(of + ": plot(" + layer + ", " + i + ")", desk.plot(layer, i), bytes[i]);
@@ -32,7 +22,7 @@ public final class PlotTest {
     }
 
     private static void promise18Plot() {
-        BoardDesk desk = withPins(3);
+        BoardDesk desk = Desks.withPins(3);
         due.same("plot(2, 0)", desk.plot(2, 0), -1);
         due.same("plot(-1, 0)", desk.plot(-1, 0), -1);
         due.same("plot(0, -1)", desk.plot(0, -1), -1);
@@ -49,7 +39,7 @@ public final class PlotTest {
 
     private static void promise18PlotOfManyNets() {
         // A full row of one net, cut into four when the joints go.
-        BoardDesk desk = withPins(16);
+        BoardDesk desk = Desks.withPins(16);
         desk.join(0, 15);
         desk.join(15, 7);
         desk.track(0, 228, 0, 11);
@@ -79,7 +69,7 @@ public final class PlotTest {
     }
 
     private static void promise20ReplayOfThePlot() {
-        BoardDesk desk = withPins(4);
+        BoardDesk desk = Desks.withPins(4);
         desk.place(1, 3, 2, 3);
         desk.track(1, 27, 0, 5);
         desk.track(3, 60, 1, 4);
@@ -103,7 +93,7 @@ public final class PlotTest {
     }
 
     private static void promise20ReplayRuns() {
-        BoardDesk desk = withPins(1);
+        BoardDesk desk = Desks.withPins(1);
         desk.track(0, 0, 0, 3);
         due.same("the same", replayed(desk, 0, 0, 0, 4, 1), 0);
         due.same("another net", replayed(desk, 0, 0, 0, 4, 2), 4);
@@ -123,11 +113,14 @@ public final class PlotTest {
     }
 
     private static void promise20ReplayEnds() {
-        BoardDesk desk = withPins(1);
+        BoardDesk desk = Desks.withPins(1);
         desk.track(0, 0, 0, 3);
         due.same("255 at once", replayed(desk, 0, 255, 0, 0, 4, 1), 4);
         due.same("255 behind a run", replayed(desk, 0, 0, 0, 4, 1, 255, 0, 0, 1, 0), 0);
-        due.same("nothing goes on from there", replayed(desk, 0, 0, 0, 4, 1, 255, 1, 0, 4, 1, 1, 0, 4, 1), 0);
+        due.same("nothing goes on from there",
+                replayed(desk, 0, 0, 0, 4, 1, 255, 1, 0, 4, 1, 1, 0, 4, 1), 0);
+        due.same("nor from the next four on",
+                replayed(desk, 0, 0, 0, 4, 1, 255, 0, 0, 0, 1, 0, 4, 1), 0);
         due.same("255 as the first column", replayed(desk, 0, 0, 255, 1, 1, 0, 0, 4, 1), 0);
         due.same("255 as a number of cells", replayed(desk, 0, 0, 0, 255, 1), 8);
         due.same("one byte at the end", replayed(desk, 0, 0, 0, 4, 1, 0), 0);
@@ -143,7 +136,7 @@ public final class PlotTest {
     }
 
     private static void promise20ReplayWrong() {
-        BoardDesk desk = withPins(1);
+        BoardDesk desk = Desks.withPins(1);
         desk.read(0);
         desk.read(0);
         due.same("replay(2)", desk.replay(2), -1);

@@ -2,7 +2,7 @@ import java.util.Random;
 
 /** Long runs of calls on BoardDesk and PlainDesk side by side; the seeds are fixed. */
 public final class RandomRunsTest {
-    private static final int RUNS = 80;
+    private static final int RUNS = 40;
     private static final int CALLS = 512;
     private static final int NONE_TOLD = -1;
     private static final int[] ODD = {-1, 0, 1, 2, 3, 4, 8, 9, 10, 11, 12, 15, 16, 23, 24, 119, 120,
@@ -19,7 +19,6 @@ public final class RandomRunsTest {
     private final int oddity;
     /** One of so many calls is a change to joints or the clearance. */
     private final int calm;
-    private int made = 0;
 
     private RandomRunsTest(long seed) {
         random = new Random(seed);
@@ -42,9 +41,11 @@ public final class RandomRunsTest {
     }
 
     private void run() {
+        if (random.nextInt(3) > 0) {
+            open();
+        }
         for (int call = 0; call < CALLS && due.wrongAnswers() == 0; call++) {
-            if (made < pins && random.nextInt(3) > 0) {
-                made++;
+            if (pinsMade() < pins && random.nextInt(3) > 0) {
                 makePin();
             } else {
                 anyCall();
@@ -54,6 +55,33 @@ public final class RandomRunsTest {
             }
         }
         compareAll();
+    }
+
+    /** A board on which there is something to route, which blind calls seldom come to. */
+    private void open() {
+        for (int p = 0; p < pins; p++) {
+            makePin();
+        }
+        for (int p = 1; p < pins; p++) {
+            if (random.nextInt(3) > 0) {
+                joinPins(p, random.nextInt(3) > 0 ? p - 1 : random.nextInt(pins));
+            }
+        }
+        for (int p = 0; p < pins; p++) {
+            for (int times = 0; times < 3; times++) {
+                placePin(p);
+            }
+        }
+        same("auto()", desk.auto(), plain.auto());
+        compareAll();
+    }
+
+    private int pinsMade() {
+        int count = 0;
+        while (plain.net(count) != NONE_TOLD) {
+            count++;
+        }
+        return count;
     }
 
     private void same(String call, int got, int want) {
@@ -66,11 +94,12 @@ public final class RandomRunsTest {
     }
 
     private int below(int bound) {
-        return random.nextInt(100) < oddity ? ODD[random.nextInt(ODD.length)] : random.nextInt(bound);
+        boolean odd = random.nextInt(100) < oddity;
+        return odd ? ODD[random.nextInt(ODD.length)] : random.nextInt(bound);
     }
 
     private int aPin() {
-        return below(Math.max(made, 1));
+        return below(Math.max(pinsMade(), 1));
     }
 
     private void makePin() {
@@ -106,9 +135,7 @@ public final class RandomRunsTest {
             int j = below(8);
             same("part(" + j + ")", desk.part(j), plain.part(j));
         } else if (choice == 2 || random.nextInt(4) == 0) {
-            int p = aPin();
-            int q = aPin();
-            same("join(" + p + ", " + q + ")", desk.join(p, q), plain.join(p, q));
+            joinPins(aPin(), aPin());
         } else {
             int cell = below(240);
             boolean is = random.nextInt(3) > 0;
@@ -116,12 +143,20 @@ public final class RandomRunsTest {
         }
     }
 
+    private void joinPins(int p, int q) {
+        same("join(" + p + ", " + q + ")", desk.join(p, q), plain.join(p, q));
+    }
+
     private void putPin() {
         int p = aPin();
         if (random.nextInt(4) == 0) {
             same("lift(" + p + ")", desk.lift(p), plain.lift(p));
-            return;
+        } else {
+            placePin(p);
         }
+    }
+
+    private void placePin(int p) {
         int x = below(12);
         int y = below(10);
         int layers = 1 + below(3);
@@ -156,7 +191,8 @@ public final class RandomRunsTest {
             int cell = below(240);
             same("erase(" + cell + ")", desk.erase(cell), plain.erase(cell));
         } else {
-            for (int times = random.nextInt(choice == 9 ? 18 : 3); times >= 0; times--) {
+            boolean far = random.nextInt(40) == 0;
+            for (int times = random.nextInt(far ? 18 : 2); times >= 0; times--) {
                 same("undo()", desk.undo(), plain.undo());
             }
         }
@@ -207,7 +243,8 @@ public final class RandomRunsTest {
         for (int layer = 0; layer < 2; layer++) {
             int i = 0;
             do {
-                due.same("plot(" + layer + ", " + i + ")", desk.plot(layer, i), plain.plot(layer, i));
+                String call = "plot(" + layer + ", " + i + ")";
+                due.same(call, desk.plot(layer, i), plain.plot(layer, i));
                 i++;
             } while (plain.plot(layer, i - 1) != NONE_TOLD);
         }

@@ -1,7 +1,5 @@
 /** Promises 13 to 15: route, rip, auto. */
 public final class RouteTest {
-    private static final int PASSIVE = 2;
-
     private static final Due due = new Due();
 
     public static void main(String[] args) {
@@ -14,6 +12,7 @@ public final class RouteTest {
         promise13NoWay();
         promise13MissingPin();
         promise13LaidForTheMissingPin();
+        promise13PadsStayPads();
         promise14Rip();
         promise15Auto();
         promise15AutoOrder();
@@ -21,17 +20,9 @@ public final class RouteTest {
         due.finish();
     }
 
-    private static BoardDesk withPins(int count) {
-        BoardDesk desk = new BoardDesk();
-        for (int p = 0; p < count; p++) {
-            desk.pin(PASSIVE);
-        }
-        return desk;
-    }
-
     /** Two joined pins, placed. */
     private static BoardDesk pair(int x0, int y0, int layers0, int x1, int y1, int layers1) {
-        BoardDesk desk = withPins(2);
+        BoardDesk desk = Desks.withPins(2);
         desk.join(0, 1);
         due.yes("place(0, ..)", desk.place(0, x0, y0, layers0));
         due.yes("place(1, ..)", desk.place(1, x1, y1, layers1));
@@ -45,12 +36,13 @@ public final class RouteTest {
             for (int one : wanted) {
                 in = in || one == cell;
             }
-            due.same(of + ": is cell " + cell + " of it", desk.copper(cell) == net ? 1 : 0, in ? 1 : 0);
+            String call = of + ": is cell " + cell + " of it";
+            due.same(call, desk.copper(cell) == net ? 1 : 0, in ? 1 : 0);
         }
     }
 
     private static void promise13RouteWrong() {
-        BoardDesk desk = withPins(2);
+        BoardDesk desk = Desks.withPins(2);
         desk.join(0, 1);
         due.same("route(2)", desk.route(2), -1);
         due.same("route(-1)", desk.route(-1), -1);
@@ -134,7 +126,7 @@ public final class RouteTest {
 
     /** Two joined pins and a third too near to both for clearance 2. */
     private static BoardDesk withNearPin() {
-        BoardDesk desk = withPins(3);
+        BoardDesk desk = Desks.withPins(3);
         desk.join(0, 1);
         desk.place(0, 0, 0, 1);
         desk.place(1, 4, 0, 1);
@@ -152,7 +144,7 @@ public final class RouteTest {
 
     private static void promise13NotFreeInBetween() {
         // Pin 1 stands between the others of its net and is not free itself: the way goes round it.
-        BoardDesk desk = withPins(4);
+        BoardDesk desk = Desks.withPins(4);
         desk.join(0, 1);
         desk.join(0, 2);
         desk.place(0, 0, 0, 1);
@@ -182,7 +174,7 @@ public final class RouteTest {
 
     private static void promise13MissingPin() {
         // Pin 0 is not placed, so pin 1 is the first; pin 2 is of its piece, so pin 3 is missing.
-        BoardDesk desk = withPins(5);
+        BoardDesk desk = Desks.withPins(5);
         for (int p = 1; p < 5; p++) {
             desk.join(0, p);
         }
@@ -196,7 +188,7 @@ public final class RouteTest {
         due.same("route to pin 4", desk.route(0), 40);
         due.same("copper(24) then", desk.copper(24), 0);
         // Copper of unplaced pins makes a piece too.
-        BoardDesk other = withPins(3);
+        BoardDesk other = Desks.withPins(3);
         other.join(0, 1);
         other.join(1, 2);
         other.place(0, 0, 0, 1);
@@ -209,7 +201,7 @@ public final class RouteTest {
     }
 
     private static void promise13LaidForTheMissingPin() {
-        BoardDesk desk = withPins(3);
+        BoardDesk desk = Desks.withPins(3);
         desk.join(0, 1);
         desk.join(0, 2);
         desk.place(0, 0, 0, 1);
@@ -225,8 +217,26 @@ public final class RouteTest {
         }
     }
 
+    private static void promise13PadsStayPads() {
+        // The way to pin 1 leads over the pad of pin 2.
+        BoardDesk desk = Desks.withPins(3);
+        desk.join(0, 1);
+        desk.join(0, 2);
+        desk.place(0, 0, 0, 1);
+        desk.place(1, 8, 0, 1);
+        desk.place(2, 4, 0, 1);
+        due.same("route over a pad", desk.route(0), 80);
+        due.same("route(2), whole", desk.route(2), 0);
+        for (int pad : new int[] {0, 4, 8}) {
+            due.no("erase pad " + pad, desk.erase(pad));
+        }
+        desk.part(1);
+        due.same("the pad belongs to its pin", desk.copper(4), 2);
+        due.same("rip(0)", desk.rip(0), 6);
+    }
+
     private static void promise14Rip() {
-        BoardDesk desk = withPins(4);
+        BoardDesk desk = Desks.withPins(4);
         desk.join(0, 1);
         desk.join(0, 3);
         desk.place(0, 0, 0, 1);
@@ -243,7 +253,7 @@ public final class RouteTest {
     }
 
     private static void promise15Auto() {
-        BoardDesk desk = withPins(7);
+        BoardDesk desk = Desks.withPins(7);
         due.same("auto(), none placed", desk.auto(), 0);
         desk.join(0, 1);
         desk.join(1, 2);
@@ -282,7 +292,7 @@ public final class RouteTest {
 
     /** Net 0 leads along row 4 over 11 columns, net 2 down over the places told. */
     private static BoardDesk crossing(int x2, int y2, int x3, int y3) {
-        BoardDesk desk = withPins(4);
+        BoardDesk desk = Desks.withPins(4);
         desk.join(0, 1);
         desk.join(2, 3);
         due.yes("place(0, 0, 4, 1)", desk.place(0, 0, 4, 1));
@@ -294,7 +304,7 @@ public final class RouteTest {
 
     private static void promise15AutoStopsAtTheMissingPin() {
         // Pin 1 is shut in, so pin 2 behind it is not reached either.
-        BoardDesk desk = withPins(5);
+        BoardDesk desk = Desks.withPins(5);
         desk.join(0, 1);
         desk.join(0, 2);
         desk.join(3, 4);

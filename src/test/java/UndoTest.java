@@ -1,7 +1,5 @@
 /** Promise 21: undo, and which calls are changes. */
 public final class UndoTest {
-    private static final int PASSIVE = 2;
-
     private static final Due due = new Due();
 
     public static void main(String[] args) {
@@ -15,16 +13,8 @@ public final class UndoTest {
         due.finish();
     }
 
-    private static BoardDesk withPins(int count) {
-        BoardDesk desk = new BoardDesk();
-        for (int p = 0; p < count; p++) {
-            desk.pin(PASSIVE);
-        }
-        return desk;
-    }
-
     private static void promise21TakesBackEachKind() {
-        BoardDesk desk = withPins(3);
+        BoardDesk desk = Desks.withPins(3);
         desk.join(0, 1);
         desk.place(0, 0, 0, 3);
         desk.place(1, 4, 0, 1);
@@ -67,7 +57,7 @@ public final class UndoTest {
     }
 
     private static void promise21NoChanges() {
-        BoardDesk desk = withPins(2);
+        BoardDesk desk = Desks.withPins(2);
         desk.place(0, 0, 0, 1);
         desk.track(0, 0, 0, 2);
         desk.bar(100, true);
@@ -92,7 +82,7 @@ public final class UndoTest {
     }
 
     private static void promise21Refused() {
-        BoardDesk desk = withPins(2);
+        BoardDesk desk = Desks.withPins(2);
         desk.place(0, 0, 0, 1);
         desk.pin(9);
         desk.join(0, 0);
@@ -111,7 +101,7 @@ public final class UndoTest {
     }
 
     private static void promise21TheLast16() {
-        BoardDesk desk = withPins(1);
+        BoardDesk desk = Desks.withPins(1);
         for (int cell = 0; cell < 40; cell++) {
             desk.bar(cell, true);
         }
@@ -142,7 +132,7 @@ public final class UndoTest {
     }
 
     private static void promise21GoesOn() {
-        BoardDesk desk = withPins(2);
+        BoardDesk desk = Desks.withPins(2);
         desk.bar(1, true);
         desk.bar(2, true);
         due.same("undo()", desk.undo(), 3);
@@ -154,7 +144,7 @@ public final class UndoTest {
     }
 
     private static void promise21CopperLaidAnew() {
-        BoardDesk desk = withPins(2);
+        BoardDesk desk = Desks.withPins(2);
         desk.join(0, 1);
         desk.track(0, 0, 0, 2);
         due.same("laid anew for pin 1", desk.track(1, 0, 0, 1), 0);
@@ -165,7 +155,7 @@ public final class UndoTest {
     }
 
     private static void promise21NetsComeBack() {
-        BoardDesk desk = withPins(3);
+        BoardDesk desk = Desks.withPins(3);
         desk.join(1, 2);
         desk.join(0, 1);
         desk.place(2, 3, 3, 1);
