@@ -72,26 +72,30 @@ public final class BoardTest {
 
     private static void promise7PlaceClearance() {
         for (int clearance = 1; clearance <= 2; clearance++) {
-            BoardDesk desk = Desks.withPins(3);
-            desk.join(0, 1);
-            desk.rule(clearance);
-            desk.place(0, 5, 5, 1);
             for (int x = 0; x < 12; x++) {
+                BoardDesk desk = Desks.withPins(3);
+                desk.join(0, 1);
+                desk.rule(clearance);
+                desk.place(0, 5, 5, 1);
                 for (int y = 0; y < 10; y++) {
                     boolean near = Math.max(Math.abs(x - 5), Math.abs(y - 5)) <= clearance;
-                    String at = " at " + x + ", " + y + " with clearance " + clearance;
-                    due.same("place" + at, desk.place(2, x, y, 1) ? 1 : 0, near ? 0 : 1);
-                    desk.lift(2);
-                    due.same("place in both" + at, desk.place(2, x, y, 3) ? 1 : 0, near ? 0 : 1);
-                    desk.lift(2);
-                    due.yes("place in the other layer" + at, desk.place(2, x, y, 2));
-                    desk.lift(2);
-                    boolean same = x == 5 && y == 5;
-                    due.same("place of the net" + at, desk.place(1, x, y, 1) ? 1 : 0, same ? 0 : 1);
-                    desk.lift(1);
+                    placeAround(desk, x, y, near);
                 }
             }
         }
+    }
+
+    private static void placeAround(BoardDesk desk, int x, int y, boolean near) {
+        String at = " at " + x + ", " + y;
+        due.same("place" + at, desk.place(2, x, y, 1) ? 1 : 0, near ? 0 : 1);
+        desk.lift(2);
+        due.same("place in both" + at, desk.place(2, x, y, 3) ? 1 : 0, near ? 0 : 1);
+        desk.lift(2);
+        due.yes("place in the other layer" + at, desk.place(2, x, y, 2));
+        desk.lift(2);
+        boolean same = x == 5 && y == 5;
+        due.same("place of the net" + at, desk.place(1, x, y, 1) ? 1 : 0, same ? 0 : 1);
+        desk.lift(1);
     }
 
     private static void promise8Lift() {

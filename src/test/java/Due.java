@@ -1,13 +1,25 @@
 /** Counts and prints the answers that are not the ones that are due. */
 final class Due {
+    private String sentence = "";
     private int asked = 0;
     private int wrong = 0;
+
+    /** What the next answers are about: told with each that is wrong. */
+    void about(String of) {
+        sentence = "[" + of + "] ";
+    }
 
     void same(String call, long got, long want) {
         asked++;
         if (got != want) {
-            wrong++;
-            System.out.println(call + " answered " + got + ", due is " + want);
+            tell(call + " answered " + got + ", due is " + want);
+        }
+    }
+
+    void same(String call, String got, String want) {
+        asked++;
+        if (!got.equals(want)) {
+            tell(call + ": " + got + ", due is " + want);
         }
     }
 
@@ -17,6 +29,27 @@ final class Due {
 
     void no(String call, boolean got) {
         same(call, got ? 1 : 0, 0);
+    }
+
+    /** The cells of a net are these and no others. */
+    void cells(String told, BoardDesk desk, int net, int... wanted) {
+        boolean[] in = new boolean[240];
+        for (int cell : wanted) {
+            in[cell] = true;
+        }
+        for (int cell = 0; cell < in.length; cell++) {
+            boolean is = desk.copper(cell) == net;
+            same(told + ": is cell " + cell + " of net " + net, is ? 1 : 0, in[cell] ? 1 : 0);
+        }
+    }
+
+    private void tell(String fault) {
+        wrong++;
+        System.out.println(sentence + fault);
+    }
+
+    int askedAnswers() {
+        return asked;
     }
 
     int wrongAnswers() {

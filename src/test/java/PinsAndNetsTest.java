@@ -1,9 +1,9 @@
 /** Promises 1 to 6: a new object, pin, join, part, net, fault. */
 public final class PinsAndNetsTest {
-    private static final int INPUT = 0;
-    private static final int OUTPUT = 1;
-    private static final int PASSIVE = 2;
-    private static final int POWER = 3;
+    private static final int INPUT = Desks.INPUT;
+    private static final int OUTPUT = Desks.OUTPUT;
+    private static final int PASSIVE = Desks.PASSIVE;
+    private static final int POWER = Desks.POWER;
 
     private static final Due due = new Due();
 
@@ -18,14 +18,6 @@ public final class PinsAndNetsTest {
         promise6Fault();
         promise6FaultOrder();
         due.finish();
-    }
-
-    private static BoardDesk withPins(int... kinds) {
-        BoardDesk desk = new BoardDesk();
-        for (int kind : kinds) {
-            desk.pin(kind);
-        }
-        return desk;
     }
 
     private static void promise1NewObject() {
@@ -50,7 +42,7 @@ public final class PinsAndNetsTest {
     }
 
     private static void promise1ObjectsShareNothing() {
-        BoardDesk one = withPins(OUTPUT, INPUT);
+        BoardDesk one = Desks.withKinds(OUTPUT, INPUT);
         one.join(0, 1);
         one.place(0, 0, 0, 3);
         one.bar(5, true);
@@ -85,7 +77,7 @@ public final class PinsAndNetsTest {
     }
 
     private static void promise3Join() {
-        BoardDesk desk = withPins(PASSIVE, PASSIVE, PASSIVE);
+        BoardDesk desk = Desks.withKinds(PASSIVE, PASSIVE, PASSIVE);
         due.same("join(0, 3)", desk.join(0, 3), -1);
         due.same("join(3, 0)", desk.join(3, 0), -1);
         due.same("join(-1, 0)", desk.join(-1, 0), -1);
@@ -100,7 +92,7 @@ public final class PinsAndNetsTest {
     }
 
     private static void promise3JoinAtTheLimit() {
-        BoardDesk desk = withPins(PASSIVE, PASSIVE, PASSIVE);
+        BoardDesk desk = Desks.withKinds(PASSIVE, PASSIVE, PASSIVE);
         for (int j = 0; j < 24; j++) {
             due.same("joint " + j, desk.join(0, 1), j);
         }
@@ -114,7 +106,7 @@ public final class PinsAndNetsTest {
     }
 
     private static void promise4Part() {
-        BoardDesk desk = withPins(PASSIVE, PASSIVE, PASSIVE, PASSIVE);
+        BoardDesk desk = Desks.withKinds(PASSIVE, PASSIVE, PASSIVE, PASSIVE);
         desk.join(0, 1);
         desk.join(1, 2);
         desk.join(2, 3);
@@ -135,7 +127,7 @@ public final class PinsAndNetsTest {
     }
 
     private static void promise5Net() {
-        BoardDesk desk = withPins(PASSIVE, PASSIVE, PASSIVE, PASSIVE, PASSIVE, PASSIVE);
+        BoardDesk desk = Desks.withKinds(PASSIVE, PASSIVE, PASSIVE, PASSIVE, PASSIVE, PASSIVE);
         desk.join(5, 4);
         desk.join(2, 3);
         desk.join(3, 5);
@@ -172,7 +164,7 @@ public final class PinsAndNetsTest {
     }
 
     private static void faultOf(String of, int kind, int... kinds) {
-        BoardDesk desk = withPins(kinds);
+        BoardDesk desk = Desks.withKinds(kinds);
         for (int p = 1; p < kinds.length; p++) {
             desk.join(p - 1, p);
         }
@@ -182,7 +174,7 @@ public final class PinsAndNetsTest {
     }
 
     private static void promise6FaultOrder() {
-        BoardDesk desk = withPins(PASSIVE, INPUT, OUTPUT, INPUT, OUTPUT, INPUT);
+        BoardDesk desk = Desks.withKinds(PASSIVE, INPUT, OUTPUT, INPUT, OUTPUT, INPUT);
         desk.join(5, 1);
         desk.join(4, 2);
         int[][] wanted = {{2, 1}, {1, 2}, {2, 3}};

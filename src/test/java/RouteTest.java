@@ -29,18 +29,6 @@ public final class RouteTest {
         return desk;
     }
 
-    /** The cells of a net are these and no others. */
-    private static void cells(String of, BoardDesk desk, int net, int... wanted) {
-        for (int cell = 0; cell < 240; cell++) {
-            boolean in = false;
-            for (int one : wanted) {
-                in = in || one == cell;
-            }
-            String call = of + ": is cell " + cell + " of it";
-            due.same(call, desk.copper(cell) == net ? 1 : 0, in ? 1 : 0);
-        }
-    }
-
     private static void promise13RouteWrong() {
         BoardDesk desk = Desks.withPins(2);
         desk.join(0, 1);
@@ -68,7 +56,7 @@ public final class RouteTest {
         due.same("from both layers", pair(0, 0, 3, 4, 0, 2).route(1), 40);
         BoardDesk desk = pair(0, 0, 1, 4, 0, 1);
         due.same("route(1)", desk.route(1), 40);
-        cells("in a row", desk, 0, 0, 1, 2, 3, 4);
+        due.cells("in a row", desk, 0, 0, 1, 2, 3, 4);
         due.same("route(1) again", desk.route(1), 0);
         due.yes("a cell goes", desk.erase(2));
         // The way starts at the pad, over copper that is there already.
@@ -81,47 +69,47 @@ public final class RouteTest {
             behind.bar(12 * y + 1, true);
         }
         due.same("under a wall", behind.route(0), 80);
-        cells("under a wall", behind, 0, 60, 180, 181, 182, 62);
+        due.cells("under a wall", behind, 0, 60, 180, 181, 182, 62);
     }
 
     private static void promise13LeastWay() {
         // From the missing pin, the upper cells have the lesser numbers.
         BoardDesk desk = pair(0, 5, 1, 3, 6, 1);
         due.same("route(0)", desk.route(0), 34);
-        cells("up at once", desk, 0, 60, 61, 62, 75);
+        due.cells("up at once", desk, 0, 60, 61, 62, 75);
         desk = pair(3, 6, 1, 0, 5, 1);
         due.same("route(0) the other way", desk.route(0), 34);
-        cells("down late", desk, 0, 60, 61, 62, 75);
+        due.cells("down late", desk, 0, 60, 61, 62, 75);
         desk = pair(0, 6, 1, 3, 5, 1);
         due.same("route(0) from above", desk.route(0), 34);
-        cells("down late, to the left", desk, 0, 72, 61, 62, 63);
+        due.cells("down late, to the left", desk, 0, 72, 61, 62, 63);
         // The least second cell decides, though a later one is greater then.
         desk = pair(5, 5, 1, 5, 7, 1);
         desk.bar(77, true);
         due.same("route(0) round a cell", desk.route(0), 28);
-        cells("on the left", desk, 0, 65, 76, 89);
+        due.cells("on the left", desk, 0, 65, 76, 89);
         // One step to the other layer, wherever: early is greater in layer 0, least in layer 1.
         desk = pair(0, 0, 2, 3, 0, 1);
         due.same("route(0) from layer 0", desk.route(0), 60);
-        cells("below at the end", desk, 0, 120, 0, 1, 2, 3);
+        due.cells("below at the end", desk, 0, 120, 0, 1, 2, 3);
         desk = pair(0, 0, 1, 3, 0, 2);
         due.same("route(0) from layer 1", desk.route(0), 60);
-        cells("above at once", desk, 0, 0, 1, 2, 3, 123);
+        due.cells("above at once", desk, 0, 0, 1, 2, 3, 123);
     }
 
     private static void promise13FirstPad() {
         BoardDesk desk = pair(0, 0, 3, 4, 0, 3);
         due.same("route(0)", desk.route(0), 40);
-        cells("in layer 0", desk, 0, 0, 120, 1, 2, 3, 4, 124);
+        due.cells("in layer 0", desk, 0, 0, 120, 1, 2, 3, 4, 124);
         desk = pair(0, 0, 3, 4, 0, 3);
         desk.bar(2, true);
         due.same("route(0) with a barred cell", desk.route(0), 40);
-        cells("in layer 1", desk, 0, 0, 120, 121, 122, 123, 4, 124);
+        due.cells("in layer 1", desk, 0, 0, 120, 121, 122, 123, 4, 124);
         desk = pair(0, 0, 3, 4, 0, 3);
         desk.bar(2, true);
         desk.bar(122, true);
         due.same("route(0) with both cells barred", desk.route(0), 48);
-        cells("round it in layer 0", desk, 0, 0, 120, 1, 14, 3, 4, 124);
+        due.cells("round it in layer 0", desk, 0, 0, 120, 1, 14, 3, 4, 124);
     }
 
     /** Two joined pins and a third too near to both for clearance 2. */
@@ -139,7 +127,7 @@ public final class RouteTest {
         BoardDesk desk = withNearPin();
         due.same("check: they are near", desk.check(1, 0), 2);
         due.same("route(0) by the other layer", desk.route(0), 100);
-        cells("by the other layer", desk, 0, 0, 120, 121, 122, 123, 124, 4);
+        due.cells("by the other layer", desk, 0, 0, 120, 121, 122, 123, 124, 4);
     }
 
     private static void promise13NotFreeInBetween() {
@@ -166,7 +154,7 @@ public final class RouteTest {
             desk.bar(cell, true);
         }
         due.same("route(0), shut in", desk.route(0), -2);
-        cells("shut in", desk, 0, 0, 65);
+        due.cells("shut in", desk, 0, 0, 65);
         due.same("undo() takes back the last bar", desk.undo(), 8);
         due.same("route(0) by the other layer", desk.route(0), 130);
         due.same("route(1) then", desk.route(1), 0);
@@ -246,8 +234,8 @@ public final class RouteTest {
         due.same("rip(4)", desk.rip(4), -1);
         due.same("rip(-1)", desk.rip(-1), -1);
         due.same("rip(3)", desk.rip(3), 6);
-        cells("ripped", desk, 0, 0);
-        cells("not ripped", desk, 2, 60, 61, 62, 63, 64);
+        due.cells("ripped", desk, 0, 0);
+        due.cells("not ripped", desk, 2, 60, 61, 62, 63, 64);
         due.same("rip(3) again", desk.rip(3), 0);
         due.same("rip(2)", desk.rip(2), 5);
     }
