@@ -35,6 +35,7 @@ public final class AutoEdgesTest {
         edges.holds("15: no way to the one that is missing", AutoEdgesTest::autoNoWay);
         edges.holds("15: until there is no way: what was laid stays", AutoEdgesTest::autoPartly);
         edges.holds("15: until there is no way: no pin behind it", AutoEdgesTest::autoStops);
+        edges.holds("15: all nets, behind one without a way, too", AutoEdgesTest::autoGoesOn);
         edges.holds("15: until no pin is missing: 16 pins", AutoEdgesTest::autoOneNet);
         edges.holds("15: all nets: 8 of them", AutoEdgesTest::autoManyNets);
         edges.holds("15: all ways are one change", AutoEdgesTest::autoOneChange);
@@ -190,6 +191,14 @@ public final class AutoEdgesTest {
         due.same("net 3 is whole", desk.copper(109), 3);
     }
 
+    private static void autoGoesOn() {
+        // Net 0 comes first, as its sum is less, and is shut in.
+        BoardDesk desk = shutIn(twoNets(0, 0, 3, 0, 0, 9, 11, 9));
+        due.same("auto()", desk.auto(), 1);
+        due.cells("net 0", desk, 0, 0, 3);
+        due.same("net 2 is whole", desk.copper(113), 2);
+    }
+
     private static void autoOneNet() {
         BoardDesk desk = Desks.withPins(16);
         for (int p = 1; p < 16; p++) {
@@ -274,20 +283,37 @@ public final class AutoEdgesTest {
         crossedAt("8 and 6, rows", twoNets(1, 1, 5, 5, 3, 0, 3, 6), 39, 2);
     }
 
+    /** Nets 0, of pins 0, 1 and 4, and 2, of two pins, all in layer 0. */
+    private static BoardDesk threeAndTwo(int[] columns, int[] rows, int... two) {
+        BoardDesk desk = Desks.withPins(5);
+        desk.join(0, 1);
+        desk.join(2, 3);
+        desk.join(4, 1);
+        due.yes("place 0", desk.place(0, columns[0], rows[0], 1));
+        due.yes("place 1", desk.place(1, columns[1], rows[1], 1));
+        due.yes("place 4", desk.place(4, columns[2], rows[2], 1));
+        due.yes("place 2", desk.place(2, two[0], two[1], 1));
+        due.yes("place 3", desk.place(3, two[2], two[3], 1));
+        return desk;
+    }
+
     private static void greatestLessLeast() {
-        // A third pin in the middle adds nothing, one that is farther out does.
-        for (int x = 4; x <= 11; x += 7) {
-            BoardDesk desk = Desks.withPins(5);
-            desk.join(0, 1);
-            desk.join(2, 3);
-            desk.join(4, 1);
-            desk.place(0, 1, 4, 1);
-            desk.place(1, 9, 4, 1);
-            desk.place(2, 6, 0, 1);
-            desk.place(3, 6, 9, 1);
-            due.yes("the third pin", desk.place(4, x, 4, 1));
-            crossedAt("third pin at " + x, desk, 54, x == 4 ? 0 : 2);
+        // Whichever of three pins stands farthest out; the one in the middle adds nothing.
+        int[][] orders = {{0, 1, 2}, {0, 2, 1}, {1, 0, 2}, {1, 2, 0}, {2, 0, 1}, {2, 1, 0}};
+        for (int[] order : orders) {
+            int[] near = {1, 4, 9};
+            int[] far = {0, 4, 11};
+            int[] deep = {0, 4, 9};
+            int[] flat = {4, 4, 4};
+            crossedAt("8 and 9", threeAndTwo(ordered(near, order), flat, 6, 0, 6, 9), 54, 0);
+            crossedAt("11 and 9", threeAndTwo(ordered(far, order), flat, 6, 0, 6, 9), 54, 2);
+            crossedAt("9 and 10", threeAndTwo(flat, ordered(deep, order), 0, 6, 10, 6), 76, 0);
+            crossedAt("9 and 8", threeAndTwo(flat, ordered(deep, order), 0, 6, 8, 6), 76, 2);
         }
+    }
+
+    private static int[] ordered(int[] values, int[] order) {
+        return new int[] {values[order[0]], values[order[1]], values[order[2]]};
     }
 
     private static void placedPinsAlone() {

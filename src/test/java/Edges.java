@@ -12,11 +12,18 @@ final class Edges {
     final Due due = new Due();
     private final Map<Supplier<BoardDesk>, List<String>> states = new IdentityHashMap<>();
 
-    /** A wrong answer is told with the sentence, and a test that asks nothing is wrong itself. */
+    /**
+     * A wrong answer is told with the sentence. No call of the document throws, so what is thrown
+     * is wrong too; and so is a test that asks nothing.
+     */
     void holds(String sentence, Runnable test) {
         due.about(sentence);
         int before = due.askedAnswers();
-        test.run();
+        try {
+            test.run();
+        } catch (RuntimeException thrown) {
+            due.same("thrown", thrown.toString(), "nothing");
+        }
         due.yes("something was asked", due.askedAnswers() > before);
     }
 

@@ -9,7 +9,7 @@ public final class PlotEdgesTest {
     private static final Supplier<BoardDesk> NEW = BoardDesk::new;
     private static final Supplier<BoardDesk> BUSY = Desks::busy;
     private static final Supplier<BoardDesk> CROWDED = Desks::crowded;
-    private static final Supplier<BoardDesk> ALL_READ = () -> withRead(400);
+    private static final Supplier<BoardDesk> ALL_READ = PlotEdgesTest::allRead;
 
     private static final Edges edges = new Edges();
     private static final Due due = edges.due;
@@ -217,11 +217,21 @@ public final class PlotEdgesTest {
         plotIs("joined to another", desk, 0, 0, 0, 3, 2, 0, 3, 3, 1, 255);
     }
 
-    private static BoardDesk withRead(int count) {
+    private static BoardDesk withRow() {
         BoardDesk desk = Desks.withPins(1);
         desk.track(0, 0, 0, 3);
-        for (int i = 0; i < count; i++) {
-            desk.read(i % 4 == 2 ? 1 : i / 4 % 12);
+        return desk;
+    }
+
+    /** A hundred cells and a hundred runs of one cell each that tell of them. */
+    private static BoardDesk allRead() {
+        BoardDesk desk = Desks.withPins(1);
+        for (int row = 0; row < 8; row++) {
+            desk.track(0, 12 * row, 0, 11);
+        }
+        desk.track(0, 96, 0, 3);
+        for (int cell = 0; cell < 100; cell++) {
+            Desks.readAll(desk, cell / 12, cell % 12, 1, 1);
         }
         return desk;
     }
@@ -282,8 +292,8 @@ public final class PlotEdgesTest {
     private static void replayNothing() {
         edges.leaves("replay(0), a new desk", NEW, desk -> desk.replay(0), 0);
         edges.leaves("replay(1), a new desk", NEW, desk -> desk.replay(1), 0);
-        edges.leaves("replay(0)", () -> withRead(0), desk -> desk.replay(0), 4);
-        edges.leaves("replay(1)", () -> withRead(0), desk -> desk.replay(1), 0);
+        edges.leaves("replay(0)", PlotEdgesTest::withRow, desk -> desk.replay(0), 4);
+        edges.leaves("replay(1)", PlotEdgesTest::withRow, desk -> desk.replay(1), 0);
     }
 
     /** Cells 0 to 3 belong to net 0, cell 239 to net 1. */
@@ -314,12 +324,12 @@ public final class PlotEdgesTest {
     }
 
     private static void replayEmpties() {
-        BoardDesk desk = withRead(400);
+        BoardDesk desk = allRead();
         due.same("read(0) when full", desk.read(0), FULL);
-        desk.replay(1);
+        due.same("replay(0) when full", desk.replay(0), 0);
         due.same("read(0)", desk.read(0), 1);
-        due.same("replay(0), nothing of before", desk.replay(0), 4);
-        desk = withRead(0);
+        due.same("replay(0), nothing of before", desk.replay(0), 100);
+        desk = withRow();
         Desks.readAll(desk, 0, 0, 4, 1);
         due.same("replay(0)", desk.replay(0), 0);
         due.same("replay(0) again", desk.replay(0), 4);
@@ -347,7 +357,7 @@ public final class PlotEdgesTest {
         for (int layer = 0; layer < 2; layer++) {
             BoardDesk desk = Desks.busy();
             desk.replay(0);
-            for (int i = 0; desk.plot(layer, i) != NONE; i++) {
+            for (int i = 0; i < 20 && desk.plot(layer, i) != NONE; i++) {
                 desk.read(desk.plot(layer, i));
             }
             due.same("replay(" + layer + ")", desk.replay(layer), 0);

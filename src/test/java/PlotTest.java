@@ -73,13 +73,13 @@ public final class PlotTest {
         desk.place(1, 3, 2, 3);
         desk.track(1, 27, 0, 5);
         desk.track(3, 60, 1, 4);
-        for (int i = 0; desk.plot(0, i) != -1; i++) {
+        for (int i = 0; i < 50 && desk.plot(0, i) != -1; i++) {
             desk.read(desk.plot(0, i));
         }
         due.same("replay of the plot", desk.replay(0), 0);
         due.same("replay of nothing", desk.replay(0), 11);
         due.same("replay of nothing, layer 1", desk.replay(1), 1);
-        for (int i = 0; desk.plot(0, i) != -1; i++) {
+        for (int i = 0; i < 50 && desk.plot(0, i) != -1; i++) {
             desk.read(desk.plot(0, i));
         }
         due.same("replay against the other layer", desk.replay(1), 10);

@@ -226,7 +226,7 @@ public final class RandomRunsTest {
         }
     }
 
-    /** All that can be seen without a change. */
+    /** All that can be seen without a change; as it only looks, it is not counted as calls. */
     private void compareAll() {
         for (int p = 0; p < 16; p++) {
             due.same("net(" + p + ")", desk.net(p), plain.net(p));

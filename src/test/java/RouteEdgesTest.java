@@ -155,9 +155,12 @@ public final class RouteEdgesTest {
     }
 
     private static void cutOff() {
-        Supplier<BoardDesk> maker = () -> walled(1, 5, 4);
-        edges.leaves("route(0)", maker, desk -> desk.route(0), FULL);
-        BoardDesk desk = maker.get();
+        for (int clearance = 1; clearance <= 2; clearance++) {
+            int asked = clearance;
+            Supplier<BoardDesk> maker = () -> walled(asked, 5, 4);
+            edges.leaves("route(0)", maker, desk -> desk.route(0), FULL);
+        }
+        BoardDesk desk = walled(1, 5, 4);
         due.same("rip(2)", desk.rip(2), 20);
         due.same("route(0) then", desk.route(0), 110);
     }

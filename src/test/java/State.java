@@ -15,8 +15,10 @@ final class State {
     private static final int PASSIVE = 2;
     /** More than can ever be taken back. */
     private static final int DEPTH = 17;
+    /** More than there are joints, faults or bytes of a plot, so that no look goes on for ever. */
+    private static final int MOST = 500;
     /** Cells of one look: few enough to leave calls for the making of the desk. */
-    private static final int BATCH = 60;
+    private static final int BATCH = 48;
 
     private static final List<Function<BoardDesk, String>> LOOKS = List.of(
             State::pins, State::nets, State::netFaults, State::partedNetFaults, State::joints,
@@ -84,7 +86,7 @@ final class State {
 
     private static String netFaults(BoardDesk desk) {
         StringBuilder told = new StringBuilder("faults of nets");
-        for (int k = 0; desk.fault(k, 0) != NONE; k++) {
+        for (int k = 0; k < MOST && desk.fault(k, 0) != NONE; k++) {
             told.append(' ').append(desk.fault(k, 0)).append(" of ").append(desk.fault(k, 1));
         }
         return told.toString();
@@ -94,7 +96,7 @@ final class State {
     private static String partedNetFaults(BoardDesk desk) {
         partAll(desk);
         StringBuilder told = new StringBuilder("parted: ").append(netFaults(desk));
-        for (int p = 1; desk.net(p) != NONE; p++) {
+        for (int p = 1; p < PINS && desk.net(p) != NONE; p++) {
             desk.join(p - 1, p);
             told.append("; ").append(desk.fault(0, 0)).append(" of ").append(desk.fault(0, 1));
             desk.part(0);
@@ -105,7 +107,7 @@ final class State {
     private static String joints(BoardDesk desk) {
         StringBuilder told = new StringBuilder("joints:");
         int left = desk.part(0);
-        while (left != NONE) {
+        for (int times = 0; times < MOST && left != NONE; times++) {
             told.append(' ').append(left).append(" left, ").append(nets(desk)).append(';');
             left = desk.part(0);
         }
@@ -126,7 +128,7 @@ final class State {
 
     private static String boardFaults(BoardDesk desk) {
         StringBuilder told = new StringBuilder("faults of the board");
-        for (int k = 0; desk.check(k, 0) != NONE; k++) {
+        for (int k = 0; k < MOST && desk.check(k, 0) != NONE; k++) {
             for (int what = 0; what < 4; what++) {
                 told.append(' ').append(desk.check(k, what));
             }
@@ -137,12 +139,8 @@ final class State {
 
     private static String plot(BoardDesk desk, int layer) {
         StringBuilder told = new StringBuilder("plot of layer ").append(layer).append(':');
-        int at = 0;
-        int value = desk.plot(layer, at);
-        while (value != NONE) {
-            told.append(' ').append(value);
-            at++;
-            value = desk.plot(layer, at);
+        for (int i = 0; i < MOST && desk.plot(layer, i) != NONE; i++) {
+            told.append(' ').append(desk.plot(layer, i));
         }
         return told.toString();
     }
@@ -192,9 +190,8 @@ final class State {
     }
 
     private static void partAll(BoardDesk desk) {
-        int left = desk.part(0);
-        while (left != NONE) {
-            left = desk.part(0);
+        for (int times = 0; times < MOST && desk.part(0) != NONE; times++) {
+            continue;
         }
     }
 }

@@ -241,6 +241,10 @@ public final class TrackEdgesTest {
         trackFails(BUSY, 4, 31, 0, 0);
         edges.changes("track(4, 32, 0, 1)", BUSY, desk -> desk.track(4, 32, 0, 1), 2);
         edges.changes("track(4, 36, 0, 11)", BUSY, desk -> desk.track(4, 36, 0, 11), 12);
+        // Net 4 in row 5 leaves the ends of row 3 free, but not what is between them.
+        trackFails(BUSY, 0, 36, 0, 11);
+        edges.changes("track(0, 36, 0, 1)", BUSY, desk -> desk.track(0, 36, 0, 1), 2);
+        edges.changes("track(0, 47, 4, 1)", BUSY, desk -> desk.track(0, 47, 4, 1), 2);
         // Only the other layer's cell is near to that of pin 2.
         trackFails(BUSY, 4, 60, 8, 1);
         trackFails(BUSY, 4, 182, 8, 1);
